@@ -78,6 +78,31 @@ public final class PromiseTests {
         return ledger(prices, amounts);
     }
 
+    /**
+     * Twelve days whose bundles are the corners of a polygon in the plane of three goods. The prices of each day put
+     * its own corner and the next one at the same cost, or, on the day that tilts, the next one below it, and all
+     * others above. The corner at place i is day 5 * i modulo 12, so the only ring runs 0, 5, 10, 3, 8 and so on.
+     */
+    private static WishLedger polygon(int tiltedPlace) {
+        int[][] edges = {{1, 0}, {2, 1}, {1, 1}, {1, 2}, {0, 1}, {-1, 1}, {-1, 0}, {-2, -1}, {-1, -1}, {-1, -2}, {0, -1}, {1, -1}};
+        int[][] prices = new int[12][];
+        int[][] amounts = new int[12][];
+        int x = 20;
+        int y = 20;
+        for (int place = 0; place < 12; place++) {
+            int dx = edges[place][0];
+            int dy = edges[place][1];
+            int tilt = place == tiltedPlace ? 1 : 0;
+            prices[place * 5 % 12] = new int[] {50 - 10 * dy - tilt * dx, 50 + 10 * dx - tilt * dy, 50};
+            amounts[place * 5 % 12] = new int[] {x, y, 99 - x - y};
+            x += dx;
+            y += dy;
+        }
+        return ledger(prices, amounts);
+    }
+
+    private static final int[] POLYGON = {0, 5, 10, 3, 8, 1, 6, 11, 4, 9, 2, 7};
+
     private static void promise1NewObject() {
         WishLedger x = new WishLedger();
         due("NONE", WishLedger.NONE, -1);
@@ -249,6 +274,11 @@ public final class PromiseTests {
         due("chain(0, 4) with a shorter way", x.chain(0, 4), 3);
         x.remove(1);
         due("chain(0, 3) without the day between", x.chain(0, 3), -1);
+        WishLedger ring = polygon(3);
+        for (int i = 1; i < 12; i++) {
+            due("chain(0, " + POLYGON[i] + ") round the polygon", ring.chain(0, POLYGON[i]), i);
+        }
+        due("chain(5, 0) round the polygon", ring.chain(5, 0), 11);
         WishLedger two = ledger(new int[][] {{1}, {1}}, new int[][] {{1}, {2}});
         due("chain(1, 0) of two", two.chain(1, 0), 1);
         dueBadDays("chain", two::chain);
@@ -294,6 +324,10 @@ public final class PromiseTests {
         dueCircle("the least of two", singles(6, new int[][] {{4, 2}, {}, {}, {}, {}, {}}, new int[][] {{}, {}, {3}, {0}, {1}, {}}), 0, 2, 3);
         dueCircle("the lesser way has no better step", singles(4, new int[][] {{}, {}, {}, {0}}, new int[][] {{1, 3}, {0}, {}, {}}), 0, 3);
         dueCircle("the better step is the last one", singles(4, new int[][] {{}, {}, {0}, {}}, new int[][] {{1, 3}, {2}, {}, {2}}), 0, 1, 2);
+        dueCircle("twelve days, the first is better", polygon(0), POLYGON);
+        dueCircle("twelve days, the last is better", polygon(11), POLYGON);
+        WishLedger flat = polygon(-1);
+        dueThrows("twelve days, none is better", STATE, () -> flat.circle(-1));
         WishLedger ties = singles(6, none, new int[][] {{1, 2}, {0}, {0, 3}, {}, {}, {}});
         for (int i : new int[] {-1, 0, 5, Integer.MIN_VALUE, Integer.MAX_VALUE}) {
             dueThrows("ties: circle(" + i + ")", STATE, () -> ties.circle(i));
@@ -371,6 +405,7 @@ public final class PromiseTests {
         int[][] all = {{1, 2, 3}, {0, 2, 3}, {0, 1, 3}, {0, 1, 2}};
         dueDrop("all at odds", singles(4, all, new int[][] {{}, {}, {}, {}}), 0, 1, 2);
         dueDrop("a ring", singles(3, new int[][] {{1}, {}, {}}, new int[][] {{}, {2}, {0}}), 0);
+        dueDrop("twelve days in a ring", polygon(6), 0);
         WishLedger kept = twoAtOdds();
         kept.drop(0);
         due("drop() leaves the days", kept.size(), 3);
@@ -463,6 +498,7 @@ public final class PromiseTests {
     private static void promise17Order() {
         int[][] none = {{}, {}, {}, {}, {}, {}};
         dueOrder("two at odds below a third", twoAtOdds(), 2, 0, 1);
+        dueOrder("twelve days in a ring", polygon(6), 0, 1, 2, 3, 4, 5, 6, 7, 8, 9, 10, 11);
         dueOrder("nothing shown", singles(6, none, none), 0, 1, 2, 3, 4, 5);
         dueOrder("a chain upwards", singles(4, new int[][] {{}, {0}, {}, {2}}, new int[][] {{}, {}, {1}, {}}), 3, 2, 1, 0);
         dueOrder("ties", singles(3, new int[][] {{}, {}, {}}, new int[][] {{1}, {0}, {0}}), 2, 0, 1);
