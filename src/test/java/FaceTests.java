@@ -6,7 +6,10 @@ import java.util.ArrayList;
 import java.util.Collections;
 import java.util.List;
 
-/** The class has the document's face, and no other member that can be seen from outside. */
+/**
+ * The class has the document's face, and no other member that can be seen from outside; the classes inside it keep to
+ * what LANGUAGE.md says of them, as far as it can be seen in the compiled class.
+ */
 public final class FaceTests {
     private static final String[] FACE = {
         "boolean fits()",
@@ -82,6 +85,37 @@ public final class FaceTests {
         }
     }
 
+    /** Rules 1, 2, 5 and 11: the names and the number of a class's members, no lambda, no static state. */
+    private static void inside(Class<?> c, List<String> faceNames) {
+        int held = 0;
+        for (Field f : c.getDeclaredFields()) {
+            boolean isStatic = Modifier.isStatic(f.getModifiers());
+            held += isStatic ? 0 : 1;
+            require(!isStatic || Modifier.isFinal(f.getModifiers()), "static and final: " + f);
+        }
+        require(held <= 20, "at most some twenty fields: " + c);
+        for (Method m : c.getDeclaredMethods()) {
+            require(!Modifier.isPrivate(m.getModifiers()) || !faceNames.contains(m.getName()), "a name of its own: " + m);
+            require(m.getParameterCount() <= 7, "at most seven parameters: " + m);
+            require(!m.isSynthetic(), "no lambda: " + m);
+        }
+    }
+
+    private static void allInside() {
+        List<String> faceNames = new ArrayList<>();
+        for (Method m : WishLedger.class.getDeclaredMethods()) {
+            if (Modifier.isPublic(m.getModifiers())) {
+                faceNames.add(m.getName());
+            }
+        }
+        Class<?>[] classes = WishLedger.class.getDeclaredClasses();
+        require(classes.length <= 11, "at most some twelve classes");
+        inside(WishLedger.class, faceNames);
+        for (Class<?> c : classes) {
+            inside(c, faceNames);
+        }
+    }
+
     private static void classes() {
         require(WishLedger.class.getModifiers() == (Modifier.PUBLIC | Modifier.FINAL), "public final class");
         Constructor<?>[] constructors = WishLedger.class.getDeclaredConstructors();
@@ -97,6 +131,7 @@ public final class FaceTests {
         methods();
         fields();
         classes();
+        allInside();
         System.out.println(wrong == 0 ? "the face is the document's" : wrong + " things are not so");
         if (wrong != 0) {
             System.exit(1);
